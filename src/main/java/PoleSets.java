@@ -486,7 +486,8 @@ public final class PoleSets {
     }
 
     public int risk(int what) {
-        findHazards();
+        grouping.measureAll();
+        hazards.findWedges();
         switch (what) {
             case 0:
                 return answer(hazards.slidingSets(hazards.facing, hazards.steepness));
@@ -516,7 +517,8 @@ public final class PoleSets {
         if (!within(what, 0, 1)) {
             return refuse(BAD_NUMBER);
         }
-        findHazards();
+        grouping.measureAll();
+        hazards.findWedges();
         int best = 0;
         int fewest = Integer.MAX_VALUE;
         for (int direction = 0; direction < 360; direction += 10) {
@@ -530,7 +532,8 @@ public final class PoleSets {
     }
 
     public int steepest() {
-        findHazards();
+        grouping.measureAll();
+        hazards.findWedges();
         int dip = 0;
         for (int next = 1; next <= 90; next++) {
             if (hazards.countAll(hazards.facing, next) > 0) {
@@ -587,11 +590,6 @@ public final class PoleSets {
     /** For numbers that are never below 0 themselves, so that NONE can mean that none was found. */
     private int answerOrNothing(int found) {
         return found < 0 ? refuse(THERE_IS_NONE) : answer(found);
-    }
-
-    private void findHazards() {
-        grouping.measureAll();
-        hazards.findWedges();
     }
 
     private boolean areTwoSets(int set, int other) {
@@ -700,11 +698,11 @@ public final class PoleSets {
 
     /** Sines, and all that is told by them: poles, arrows, nearness, how a vector lies. */
     private static final class Circle {
-        /** A quarter more than a turn, so that a cosine needs no turning back. */
+        /** So long that a direction turned by half, and a quarter more for its cosine, needs no turning back. */
         final int[] sines;
 
         Circle() {
-            sines = new int[450];
+            sines = new int[360 + 180 + 90];
             for (int d = 0; d < sines.length; d++) {
                 int turned = d % 360;
                 sines[d] = turned <= 180 ? bow(turned) : -bow(turned - 180);
@@ -725,19 +723,19 @@ public final class PoleSets {
         }
 
         void poleInto(int direction, int dip, Vector out) {
-            int plain = plainDirection(direction, dip);
-            int flat = sine(dip);
-            out.put(flat * cosine(plain + 180) / THOUSAND, flat * sine(plain + 180) / THOUSAND, cosine(dip));
+            int turned = plainDirection(direction, dip) + 180;
+            int flat = sines[dip];
+            out.put(flat * sines[turned + 90] / THOUSAND, flat * sines[turned] / THOUSAND, sines[dip + 90]);
         }
 
         void arrowInto(int trend, int plunge, Vector out) {
-            int flat = cosine(plunge);
-            out.put(flat * cosine(trend) / THOUSAND, flat * sine(trend) / THOUSAND, sine(plunge));
+            int flat = sines[plunge + 90];
+            out.put(flat * sines[trend + 90] / THOUSAND, flat * sines[trend] / THOUSAND, sines[plunge]);
         }
 
         boolean areNear(Vector a, Vector b, int angle) {
             long dot = a.dot(b);
-            long cosine = cosine(angle);
+            long cosine = sines[angle + 90];
             return dot * dot * MILLION >= cosine * cosine * (a.square() * b.square());
         }
 
@@ -788,7 +786,7 @@ public final class PoleSets {
         }
 
         private long levelOf(Vector v, int trend) {
-            return (v.x * cosine(trend) + v.y * sine(trend)) / THOUSAND;
+            return (v.x * sines[trend + 90] + v.y * sines[trend]) / THOUSAND;
         }
 
         private int tiltOf(long bySine, long byCosine) {
