@@ -134,6 +134,9 @@ public final class PromisesTest {
         PoleSets slope = threes(20, 35, 180, 60);
         good(slope, "the slope at first: risk(0)", slope.risk(0), 1);
         good(slope, "the slope at first: risk(1)", slope.risk(1), 2);
+        PoleSets left = threes(340, 35);
+        good(left, "the slope at first, from the other side: risk(0)", left.risk(0), 1);
+        good(left, "the slope at first: steepest()", left.steepest(), 35);
     }
 
     private static void status() {
@@ -419,6 +422,62 @@ public final class PromisesTest {
         good(order, "tight of like ones: poles are shorter than 1000", order.set(0, 8), 400000 / 14);
         good(order, "turned up, by y", order.set(3, 5) > 0 ? 1 : 0, 1);
         heavySet();
+        turnedPoles();
+        stateOfOthers();
+    }
+
+    /** Poles square to that of the seed stay as they are; those beyond are turned round. */
+    private static void turnedPoles() {
+        PoleSets x = with(y -> {
+            y.line(0, 90, 9);
+            y.link(31, 3);
+            y.crack(0, 0, 0, 0);
+            y.crack(0, 180, 20, 0);
+            y.crack(0, 180, 20, 0);
+            y.crack(0, 0, 30, 0);
+            y.crack(0, 0, 60, 0);
+            y.crack(0, 0, 90, 0);
+        });
+        good(x, "members in a long chain", x.set(0, 0), 6);
+        good(x, "its seed", x.set(0, 11), 0);
+        good(x, "set(0, 4): (686 - 500 - 864 - 1000) by 6", x.set(0, 4), -1678 / 6);
+        good(x, "set(0, 6): (1000 + 1878 + 864 + 500) by 6", x.set(0, 6), 4242 / 6);
+        PoleSets rim = with(y -> {
+            y.line(0, 90, 9);
+            y.link(21, 2);
+            y.crack(0, 170, 90, 0);
+            y.crack(0, 10, 90, 0);
+        });
+        good(rim, "set(0, 4): both sides of the rim", rim.set(0, 4), 984);
+        good(rim, "set(0, 5)", rim.set(0, 5), 0);
+        good(rim, "set(0, 11)", rim.set(0, 11), 1090);
+    }
+
+    /** What was worked out of one set is of no matter to another, nor the order of cracks. */
+    private static void stateOfOthers() {
+        PoleSets x = threes(0, 0);
+        x.crack(0, 0, 50, 0);
+        x.crack(0, 0, 45, 0);
+        x.crack(0, 0, 40, 0);
+        x.apart(0, 1);
+        good(x, "set(1, 9)", x.set(1, 9), 5);
+        good(x, "set(1, 10)", x.set(1, 10), 5);
+        PoleSets back = with(y -> {
+            y.line(0, 90, 9);
+            y.link(5, 3);
+            y.crack(0, 0, 50, 0);
+            y.crack(0, 0, 40, 0);
+            y.crack(0, 0, 45, 0);
+        });
+        good(back, "set(0, 11)", back.set(0, 11), 45);
+        PoleSets two = with(y -> {
+            y.line(0, 90, 9);
+            y.link(5, 2);
+            y.crack(0, 0, 88, 0);
+            y.crack(0, 0, 88, 0);
+        });
+        good(two, "LONG is one less than MASS", two.set(0, 7), 1999);
+        good(two, "TIGHT by 1", two.set(0, 8), 200000);
     }
 
     /** Sixty of the greatest weight: sums whose squares need all the room there is. */
@@ -519,6 +578,17 @@ public final class PromisesTest {
         good(girdle, "overlap(0, 1, 0): inside a ring", girdle.overlap(0, 1, 0), 1);
         good(girdle, "overlap(0, 1, 1)", girdle.overlap(0, 1, 1), 0);
         good(girdle, "overlap(1, 0, 1)", girdle.overlap(1, 0, 1), 3);
+        PoleSets first = with(y -> {
+            y.line(0, 90, 9);
+            y.link(12, 3);
+            for (int k = 0; k < 3; k++) {
+                y.crack(0, 0, 0, 0);
+            }
+            for (int direction = 0; direction < 360; direction += 20) {
+                y.crack(0, direction, 30, 0);
+            }
+        });
+        good(first, "overlap(1, 0, 1): the first crack, too", first.overlap(1, 0, 1), 3);
     }
 
     /** A ring of dip 30 round three flat ones. */
@@ -632,6 +702,8 @@ public final class PromisesTest {
         good(x, "linkFor(0)", x.linkFor(0), 1);
         refused(x, "linkFor(max)", x.linkFor(Integer.MAX_VALUE), 5);
         good(x, "link stays", x.link(10, 4), 1004);
+        PoleSets wide = threes(0, 0, 0, 45);
+        good(wide, "linkFor(1): the widest LINK", wide.linkFor(1), 45);
     }
 
     // ---- settled, thick
@@ -662,6 +734,15 @@ public final class PromisesTest {
         good(ring, "a ring that goes to its middle", ring.settled(30, 1), 3);
         PoleSets e = empty();
         good(e, "settled(1, 0)", e.settled(1, 0), 1);
+        PoleSets drifting = with(y -> {
+            y.line(0, 90, 9);
+            y.link(1, 3);
+            int[] directions = {0, 0, 0, 27, 34, 42, 45, 50, 58, 60, 63, 71, 74, 78, 82, 84, 88, 94, 99, 103};
+            for (int direction : directions) {
+                y.crack(0, direction, 90, 0);
+            }
+        });
+        good(drifting, "twelve rounds at most, of sixteen", drifting.settled(33, 0), 12);
     }
 
     private static void settledIn() {
@@ -785,6 +866,16 @@ public final class PromisesTest {
         good(x, "axis(false, 0): square to both", x.axis(false, 0), 303);
         good(x, "axis(false, 1)", x.axis(false, 1), 53);
         refused(x, "axis(false, -1)", x.axis(false, -1), 1);
+        x.drop(0);
+        good(x, "axis(true, 0) without it", x.axis(true, 0), 33);
+        good(x, "axis(false, 0) without it", x.axis(false, 0), 0);
+        good(x, "axis(false, 1) without it", x.axis(false, 1), 0);
+        x.crack(0, 12, 0, 0);
+        x.drop(0);
+        good(x, "axis(true, 0) of a flat one", x.axis(true, 0), 0);
+        good(x, "axis(true, 1) of a flat one", x.axis(true, 1), 0);
+        good(x, "axis(false, 0) of a flat one", x.axis(false, 0), 0);
+        good(x, "axis(false, 1) of a flat one", x.axis(false, 1), 90);
     }
 
     private static void nextLine() {
@@ -855,6 +946,19 @@ public final class PromisesTest {
         b.crack(0, 0, 0, 9);
         good(b, "spacing(0, 0, 1)", b.spacing(0, 0, 1), 9);
         good(b, "spacing(0, 0, 2): along the planes", b.spacing(0, 0, 2), 0);
+        PoleSets wide = with(y -> {
+            y.line(0, 0, 100000);
+            y.line(0, 90, 100000);
+            y.crack(0, 0, 0, 0);
+            y.crack(0, 0, 0, 100000);
+            y.crack(1, 0, 0, 0);
+            y.crack(1, 0, 0, 0);
+        });
+        good(wide, "spacing(0, 0, 1) over the longest", wide.spacing(0, 0, 1), 100000);
+        good(wide, "spacing(0, 0, 2) along the planes", wide.spacing(0, 0, 2), 0);
+        good(wide, "spacing(0, 1, 1) at one place", wide.spacing(0, 1, 1), 0);
+        refused(wide, "meets by TRUE 0", wide.meets(0, 0, 0, 90, 1), 5);
+        refused(wide, "meets by TRUE 0", wide.meets(0, 1, 0, 90, 1), 5);
         refused(b, "spacing(0, 0, 3)", b.spacing(0, 0, 3), 1);
         refused(b, "spacing(0, 0, -1)", b.spacing(0, 0, -1), 1);
         refused(b, "spacing(3, 0, 3)", b.spacing(3, 0, 3), 1);
@@ -922,6 +1026,20 @@ public final class PromisesTest {
         refused(x, "wedge(0, 0, 0)", x.wedge(0, 0, 0), 2);
         refused(x, "wedge(0, 2, 0)", x.wedge(0, 2, 0), 2);
         refused(x, "wedge(-1, 0, 0)", x.wedge(-1, 0, 0), 2);
+        PoleSets level = threes(0, 0, 90, 90);
+        level.crack(0, 90, 90, 0);
+        good(level, "wedge(0, 1, 2): stays as it is", level.wedge(0, 1, 2), 1000);
+        good(level, "wedge(0, 1, 0)", level.wedge(0, 1, 0), 0);
+        good(level, "wedge(1, 0, 2)", level.wedge(1, 0, 2), 1000);
+        level.crack(0, 0, 0, 0);
+        level.crack(0, 0, 0, 0);
+        good(level, "wedge(0, 1, 2): turned round", level.wedge(0, 1, 2), 1000);
+        PoleSets none = around();
+        good(none, "means that are alike", none.apart(0, 1), 0);
+        for (int what = 0; what <= 4; what++) {
+            refused(none, "no wedge", none.wedge(0, 1, what), 5);
+        }
+        good(none, "no wedge slides", none.risk(2), 0);
     }
 
     private static void risk() {
@@ -943,6 +1061,8 @@ public final class PromisesTest {
         x.slope(359, 70, 48, 45);
         good(x, "risk(0): SIDE or less", x.risk(0), 5);
         good(x, "risk(2)", x.risk(2), 1);
+        PoleSets later = threes(0, 0, 45, 60, 315, 60);
+        good(later, "risk(3): sets 1 and 2", later.risk(3), 102);
         refused(x, "risk(4)", x.risk(4), 1);
         refused(x, "risk(-1)", x.risk(-1), 1);
     }
