@@ -616,7 +616,8 @@ public final class PoleSets {
     /** Right up to 4.6e18: one bit more and a trial's square would wrap around; nothing here is above 1.5e18. */
     private static long root(long square) {
         long found = 0;
-        for (long bit = 1L << 30; bit > 0; bit >>= 1) {
+        // Most roots are of weights below 2^32, whose bits end sooner.
+        for (long bit = square < 1L << 32 ? 1L << 15 : 1L << 30; bit > 0; bit >>= 1) {
             long trial = found + bit;
             if (trial * trial <= square) {
                 found = trial;
