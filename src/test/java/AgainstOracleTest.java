@@ -60,6 +60,9 @@ public final class AgainstOracleTest {
             if (random.nextInt(3) > 0) {
                 call("link", 1 + random.nextInt(random.nextBoolean() ? 45 : 15), 2 + random.nextInt(4));
             }
+            if (random.nextInt(20) == 0) {
+                tellCouples();
+            }
             for (int k = 0; k < mostCracks; k++) {
                 tellCrack();
             }
@@ -75,6 +78,17 @@ public final class AgainstOracleTest {
 
         private boolean isDear(Method m) {
             return List.of("axis", "bridges", "hangs", "linkFor", "nextLine", "peak").contains(m.getName());
+        }
+
+        /** As many sets as there can be, or nearly. */
+        private void tellCouples() throws Exception {
+            call("link", 1, 2);
+            for (int k = 0; k < 30; k++) {
+                int direction = random.nextInt(36) * 10;
+                int dip = random.nextInt(10) * 10;
+                call("crack", 0, direction, dip, 0);
+                call("crack", 0, direction, dip, 1);
+            }
         }
 
         private void tellCrack() throws Exception {
