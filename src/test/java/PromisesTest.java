@@ -1,6 +1,6 @@
 import java.util.function.Consumer;
 
-/** For each promise ordinary inputs, the edges that the document names, and wrong inputs; worked out by hand. */
+/** For each promise ordinary inputs, the edges that the document names, and wrong inputs; worked out by hand, but for the g of unfold (29), which the Oracle gave. */
 public final class PromisesTest {
     private static int wrong = 0;
     private static int promise = 0;
