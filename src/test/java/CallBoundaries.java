@@ -444,6 +444,9 @@ final class CallBoundaries {
         check.good(just, "the other way", just.overlap(1, 0, 0), 1);
         check.good(just, "all three are NEAR by 10", just.overlap(1, 0, 1), 3);
         check.good(just, "none is NEAR by 0", just.overlap(0, 1, 1), 0);
+        PoleSets before = Scenes.lies(53, 12, 53, 12, 53, 12, 0, 0, 0, 5, 0, 10, 0, 15, 0, 20);
+        before.link(5, 3);
+        check.good(before, "all three, told first", before.overlap(1, 0, 1), 3);
         PoleSets more = besideFan(53, 13);
         check.good(more, "ANGLE", more.apart(0, 1), 11);
         check.good(more, "both CONES", more.set(0, 9) + more.set(1, 9), 10);
@@ -531,6 +534,12 @@ final class CallBoundaries {
         check.good(two, "the one between", two.bridges(1), 1);
         two.link(10, 4);
         check.good(two, "STRAYS are none", two.bridges(0), 0);
+        PoleSets first = Scenes.lies(0, 20, 0, 10, 0, 30);
+        check.good(first, "the first of all", first.bridges(0), 1);
+        check.good(first, "the first of all", first.bridges(1), 0);
+        PoleSets last = Scenes.lies(0, 10, 0, 30, 0, 20);
+        check.good(last, "the last of all", last.bridges(0), 1);
+        check.good(last, "the last of all", last.bridges(1), 2);
         PoleSets chain = Scenes.lies();
         chain.link(3, 2);
         for (int i = 0; i < 30; i++) {

@@ -6,7 +6,10 @@ import java.lang.reflect.Modifier;
 import java.nio.charset.StandardCharsets;
 import java.nio.file.Files;
 import java.nio.file.Path;
+import java.util.Arrays;
+import java.util.Map;
 import java.util.Set;
+import java.util.TreeMap;
 import java.util.TreeSet;
 import java.util.regex.Matcher;
 import java.util.regex.Pattern;
@@ -101,10 +104,11 @@ public final class LanguageTest {
         }
     }
 
-    /** Rule 11: methods stay short, and take seven parameters at most. */
+    /** Rules 8 and 11: methods stay short, and calls go at most eight deep and never round. */
     private static void methods(String text) {
         String[] lines = text.split("\n");
-        Pattern head = Pattern.compile("^(    |        )(?:[\\w\\[\\]]+ )*\\w+\\(.*\\) \\{$");
+        Pattern head = Pattern.compile("^(    |        )(?:[\\w\\[\\]]+ )+(\\w+)\\(.*\\) \\{$");
+        Map<String, String> bodies = new TreeMap<>();
         for (int i = 0; i < lines.length; i++) {
             Matcher m = head.matcher(lines[i]);
             if (!m.find()) {
@@ -115,7 +119,26 @@ public final class LanguageTest {
                 end++;
             }
             check(end - i < 60, "a long method: " + lines[i].trim());
+            String body = String.join("\n", Arrays.copyOfRange(lines, i + 1, Math.min(end, lines.length)));
+            bodies.merge(m.group(2), body, String::concat);
         }
+        check(bodies.size() > 45, "no methods were found");
+        for (String name : bodies.keySet()) {
+            int deep = depth(name, bodies, 1);
+            check(deep <= 8, name + " calls " + deep + " deep");
+        }
+    }
+
+    /** How many calls stand open at once; methods of one name are taken for one, which only adds to it. */
+    private static int depth(String name, Map<String, String> bodies, int open) {
+        int deepest = open;
+        Matcher called = Pattern.compile("\\b(\\w+)\\(").matcher(bodies.get(name));
+        while (called.find() && deepest < 50) {
+            if (bodies.containsKey(called.group(1))) {
+                deepest = Math.max(deepest, depth(called.group(1), bodies, open + 1));
+            }
+        }
+        return deepest;
     }
 
     /** Rules 5 and 11: twenty fields at most; static ones are final and plain. */

@@ -102,6 +102,16 @@ final class Scenes {
      * afterwards, for what was told last can only be asked for by telling something else.
      */
     static String portrait(PoleSets x) {
+        List<Long> seen = read(x);
+        seen.add((long) x.line(1, 2, 3));
+        seen.add((long) x.crack(0, 1, 2, 0));
+        seen.add((long) x.link(10, 3));
+        seen.add((long) x.cap(1));
+        return seen.toString();
+    }
+
+    /** The answers of calls that change nothing. */
+    static List<Long> read(PoleSets x) {
         List<Long> seen = new ArrayList<>();
         for (int what = 0; what <= 4; what++) {
             seen.add((long) x.many(what));
@@ -140,11 +150,7 @@ final class Scenes {
         seen.add((long) x.blind(20, 35, 30));
         seen.add((long) x.meets(0, 0, 10, 20, 3000));
         seen.add(x.block(0, 1, 2, 10, 20, 30));
-        seen.add((long) x.line(1, 2, 3));
-        seen.add((long) x.crack(0, 1, 2, 0));
-        seen.add((long) x.link(10, 3));
-        seen.add((long) x.cap(1));
-        return seen.toString();
+        return seen;
     }
 
     private static void rows(PoleSets x, List<Long> seen, String name, int of, int last) {

@@ -94,6 +94,18 @@ final class SetBoundaries {
         check.good(full, "as many as may be: STRAYS", full.many(4), 0);
         full.link(1, 3);
         check.good(full, "sixty STRAYS", full.many(4), 60);
+        PoleSets alone = Scenes.lies();
+        for (int i = 0; i < 60; i++) {
+            Scenes.more(alone, 6 * i, 40);
+        }
+        alone.link(1, 2);
+        check.good(alone, "sixty, each alone", alone.many(4), 60);
+        check.good(alone, "no SETS", alone.many(3), 0);
+        check.good(alone, "no SETS without one", alone.without(59), 0);
+        alone.link(10, 20);
+        check.good(alone, "all sixty in a ring", alone.set(0, 0), 60);
+        alone.link(1, 2);
+        check.good(alone, "each alone again", alone.many(4), 60);
     }
 
     private void numbers() {
@@ -266,6 +278,10 @@ final class SetBoundaries {
         PoleSets two = Scenes.lies(0, 88, 0, 88);
         two.link(1, 2);
         check.due("LONG is 1 less", two.set(0, 8), 200000);
+        PoleSets longer = Scenes.threes(8, 90, 11, 90);
+        longer.link(1, 3);
+        check.good(longer, "LONG is 4 less", longer.fold(0, 1, 281, 0), 600000 / 4);
+        check.good(longer, "LONG is 1 more, for (972, 242, 0) is longer than 1000", longer.fold(0, 1, 281, 180), 1000000);
         PoleSets loose = Scenes.lies(0, 0, 0, 45, 0, 90);
         loose.link(45, 3);
         check.good(loose, "three over a quarter", loose.set(0, 8), 300000 / (3000 - loose.set(0, 7)));
@@ -278,6 +294,12 @@ final class SetBoundaries {
         x.link(20, 2);
         check.good(x, "two flat ones and two of 20", x.set(0, 9), 20);
         check.due("one square to the mean", quarter().set(0, 9), 90);
+        PoleSets less = Scenes.lies(0, 0, 0, 0, 0, 20, 180, 20);
+        less.link(20, 2);
+        check.good(less, "before", less.set(0, 9), 20);
+        less.drop(3);
+        less.drop(2);
+        check.good(less, "without those farthest out", less.set(0, 9), 0);
     }
 
     /**
@@ -303,7 +325,16 @@ final class SetBoundaries {
         x.drop(0);
         check.good(x, "less than half", x.set(0, 10), 20);
         check.due("the greatest there is", quarter().set(0, 10), 90);
+        PoleSets just = new PoleSets();
+        just.line(0, 90, 9);
+        just.cap(2);
+        Scenes.more(just, 0, 0, 0, 0, 0, 3, 180, 3);
+        check.good(just, "2000 of 4002", just.set(0, 1), 4002);
+        check.good(just, "2000 of 4002: less than half", just.set(0, 10), 3);
+        just.cap(1);
+        check.good(just, "2000 of 4000: just half", just.set(0, 10), 0);
         PoleSets most = quarter();
+        check.good(most, "with the two", most.set(0, 10), 90);
         most.drop(15);
         most.drop(14);
         check.good(most, "without the two", most.set(0, 10), 0);
@@ -371,6 +402,37 @@ final class SetBoundaries {
         check.good(fan, "ROUNDS by REACH 1", fan.settled(1, 0), 2);
         check.good(fan, "the first, by REACH 1", fan.settledIn(1, 0), -1);
         check.good(fan, "that LIE", fan.settledLie(1, 0), 3044);
+        PoleSets gone = deserted();
+        check.good(gone, "its MEAN at first", gone.set(0, 4), 990);
+        check.good(gone, "ROUNDS", gone.settled(90, 0), 2);
+        for (int crack = 0; crack < 22; crack++) {
+            int due = crack < 4 || crack > 7 && crack < 13 ? 2 : crack < 20 ? 1 : 0;
+            check.good(gone, "settledIn(90, " + crack + ")", gone.settledIn(90, crack), due);
+        }
+        check.good(gone, "(1, 1, 0) by 2 is 0, 0, 0: its MEAN stays", gone.settledLie(90, 0), 90);
+    }
+
+    /**
+     * Eight upright ones, four to each side of their mean, all of which go over to two sets that lie around them;
+     * then two that are nearly flat are all that comes to that mean, 90 from every mean, and as one of them is
+     * turned round, nothing is left of their sum.
+     */
+    private static PoleSets deserted() {
+        PoleSets x = new PoleSets();
+        x.line(0, 0, 9);
+        x.line(82, 0, 9);
+        x.line(100, 0, 9);
+        x.cap(20);
+        x.link(20, 3);
+        Scenes.repeat(x, 4, 172, 90);
+        Scenes.repeat(x, 4, 188, 90);
+        x.crack(1, 172, 68, 0);
+        x.crack(1, 352, 68, 0);
+        Scenes.more(x, 154, 77, 147, 90, 334, 77);
+        x.crack(2, 190, 46, 0);
+        x.crack(2, 10, 46, 0);
+        Scenes.more(x, 204, 61, 208, 75, 209, 90, 28, 75, 24, 61);
+        return Scenes.more(x, 270, 1, 274, 1);
     }
 
     private void roundsAtMost() {
@@ -423,6 +485,11 @@ final class SetBoundaries {
         peak(0, 20, 30, 1000, Scenes.lies(10, 40, 40, 30, 20, 30));
         peak(0, 10, 40, 2000, Scenes.lies(10, 40, 40, 30, 20, 30, 10, 40));
         peak(90, 0, 0, 3000, Scenes.lies(10, 40, 40, 30, 20, 30));
+        PoleSets again = Scenes.lies(10, 40, 10, 40, 40, 30);
+        peak(90, 0, 0, 3000, again);
+        peak(0, 10, 40, 2000, again);
+        again.drop(0);
+        peak(0, 40, 30, 1000, again);
         PoleSets none = Scenes.lies();
         check.refused(none, "peak of none", none.peak(90, 0), 5);
     }

@@ -41,6 +41,15 @@ final class SlopeBoundaries {
             check.refused(alike, "no WEDGE: what " + what, alike.wedge(1, 0, what), 5);
         }
         check.good(alike, "no WEDGE SLIDES", alike.risk(2), 0);
+        PoleSets later = Scenes.threes(45, 60, 315, 60);
+        check.good(later, "a WEDGE that SLIDES", later.risk(2), 1);
+        for (int left = 5; left >= 0; left--) {
+            later.drop(0);
+        }
+        Scenes.repeat(ringOn(later), 3, 0, 0);
+        check.good(later, "two MEANS that are one, where a WEDGE was", later.apart(0, 1), 0);
+        check.good(later, "no WEDGE SLIDES", later.risk(2), 0);
+        check.refused(later, "no couple", later.risk(3), 5);
     }
 
     /** By both orders. */
@@ -53,12 +62,15 @@ final class SlopeBoundaries {
 
     /** Eighteen that dip by 30 to all sides, and three flat ones. */
     private static PoleSets ring() {
-        PoleSets x = Scenes.lies();
+        return Scenes.repeat(ringOn(Scenes.lies()), 3, 0, 0);
+    }
+
+    private static PoleSets ringOn(PoleSets x) {
         x.link(12, 3);
         for (int direction = 0; direction < 360; direction += 20) {
             Scenes.more(x, direction, 30);
         }
-        return Scenes.repeat(x, 3, 0, 0);
+        return x;
     }
 
     private void trends() {
@@ -101,6 +113,10 @@ final class SlopeBoundaries {
         check.good(first, "one steeper and less FRICTION: all that look out SLIDE", first.risk(0), 1 + 2 + 4 + 32);
         first.slope(0, 60, 30, 19);
         check.good(first, "a narrower SIDE", first.risk(0) + first.risk(1), 0);
+        PoleSets side = Scenes.threes(49, 55, 340, 60);
+        check.good(side, "SIDE at first: 70 is 21 OFF 49", side.safest(0), 70);
+        side.slope(0, 60, 30, 21);
+        check.good(side, "by SIDE 21", side.safest(0), 80);
     }
 
     private void apart() {
@@ -260,6 +276,11 @@ final class SlopeBoundaries {
                 check.good(x, "by " + g + ": square to each other", x.fold(0, 1, trend, g), squareFold());
             }
         }
+        PoleSets aslant = Scenes.threes(30, 40, 200, 70);
+        int[][] folds = {{45, 60, 509}, {45, -100, 843}, {45, 170, 638}, {90, -30, 7692}, {90, 60, 1500}, {300, 20, 2380}};
+        for (int[] each : folds) {
+            check.good(aslant, "round " + each[0] + " by " + each[1], aslant.fold(0, 1, each[0], each[1]), each[2]);
+        }
         check.refused(x, "by -181", x.fold(0, 1, 0, -181), 1);
         check.refused(x, "by 181", x.fold(0, 1, 0, 181), 1);
         check.refused(x, "round -1", x.fold(0, 1, -1, 0), 1);
@@ -292,6 +313,10 @@ final class SlopeBoundaries {
         PoleSets mirrored = Scenes.threes(0, 30, 180, 30);
         check.good(mirrored, "the last there is", mirrored.unfold(0, 1, 0, 0), 90);
         check.good(mirrored, "the last there is: how TIGHT", mirrored.unfold(0, 1, 0, 1), 600000 / (6000 - 5989));
+        PoleSets beyond = Scenes.threes(156, 69, 204, 67);
+        check.good(beyond, "by 91 it would be tighter", beyond.fold(0, 1, 0, 91), 1351);
+        check.good(beyond, "the last there is", beyond.unfold(0, 1, 0, 0), 90);
+        check.good(beyond, "the last there is: how TIGHT", beyond.unfold(0, 1, 0, 1), 1312);
         PoleSets alike = Scenes.threes(0, 88, 177, 90);
         alike.link(1, 3);
         check.good(alike, "the first there is", alike.unfold(0, 1, 0, 0), firstOfMost(alike, 0));
@@ -370,6 +395,18 @@ final class SlopeBoundaries {
         cluster(359, 45);
         cluster(180, 89);
         cluster(123, 37);
+        cluster(0, 1);
+        PoleSets two = Scenes.lies(359, 1);
+        check.good(two, "CLUSTER: DIRECTION of the first with that POLE", two.axis(true, 0), 1);
+        check.good(two, "CLUSTER: DIP of the first with that POLE", two.axis(true, 1), 1);
+        PoleSets square = Scenes.lies(123, 37, 33, 90);
+        check.good(square, "GIRDLE: DIRECTION, square to both", square.axis(false, 0), 303);
+        check.good(square, "GIRDLE: DIP, square to both", square.axis(false, 1), 53);
+        PoleSets later = Scenes.lies(17, 0);
+        axes(later, 0, 90, 0, 0);
+        Scenes.more(later, 0, 90);
+        later.drop(0);
+        axes(later, 0, 0, 0, 90);
     }
 
     private void axes(PoleSets x, int... due) {

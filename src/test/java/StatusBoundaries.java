@@ -252,15 +252,22 @@ final class StatusBoundaries {
             for (int number : new int[] {range.least, range.most}) {
                 PoleSets x = Scenes.rock();
                 x.many(-1);
-                Scenes.ask(x, range.name, range.with(number));
-                check.due("STATUS of " + range.name + " with " + number + " at " + range.index, x.status(), 0);
+                long first = Scenes.ask(x, range.name, range.with(number));
+                String call = range.name + " with " + number + " at " + range.index;
+                check.due("STATUS of " + call, x.status(), 0);
+                PoleSets late = Scenes.rock();
+                Scenes.read(late);
+                check.due("after much else was asked: " + call, Scenes.ask(late, range.name, range.with(number)), first);
             }
         }
         for (String name : new String[] {"digest", "steepest"}) {
             PoleSets x = Scenes.rock();
             x.many(-1);
-            Scenes.ask(x, name);
+            long first = Scenes.ask(x, name);
             check.due("STATUS of " + name, x.status(), 0);
+            PoleSets late = Scenes.rock();
+            Scenes.read(late);
+            check.due("after much else was asked: " + name, Scenes.ask(late, name), first);
         }
     }
 
