@@ -17,6 +17,8 @@ public final class PoleSets {
     private static final int MOST_ROUNDS = 12;
     private static final int THOUSAND = 1000;
     private static final int MILLION = 1000000;
+    /** More than any count, weight or number of a lie here. */
+    private static final int ABOVE_ALL = 1 << 30;
 
     private final Circle circle;
     private final Survey survey;
@@ -520,7 +522,7 @@ public final class PoleSets {
         grouping.measureAll();
         hazards.findWedges();
         int best = 0;
-        int fewest = Integer.MAX_VALUE;
+        int fewest = ABOVE_ALL;
         for (int direction = 0; direction < 360; direction += 10) {
             int hazardous = hazards.countAll(direction, hazards.steepness);
             if (hazardous < fewest) {
@@ -641,12 +643,6 @@ public final class PoleSets {
 
     private static int lieNumber(int direction, int dip) {
         return 100 * direction + dip;
-    }
-
-    private static void fillWithVectors(Vector[] row) {
-        for (int i = 0; i < row.length; i++) {
-            row[i] = new Vector();
-        }
     }
 
     private static final class Vector {
@@ -773,9 +769,10 @@ public final class PoleSets {
             return nearest;
         }
 
+        /** Half a turn on, what is reached has the other sign: the most is never below 0. */
         int trendOf(Vector v) {
             int best = 0;
-            long most = Long.MIN_VALUE;
+            long most = NONE;
             for (int t = 0; t < 360; t++) {
                 long reached = v.x * sines[t + 90] + v.y * sines[t];
                 if (reached > most) {
@@ -790,9 +787,10 @@ public final class PoleSets {
             return (v.x * sines[trend + 90] + v.y * sines[trend]) / THOUSAND;
         }
 
+        /** Of two numbers that are not below 0, so that what is reached isn't either. */
         private int tiltOf(long bySine, long byCosine) {
             int best = 0;
-            long most = Long.MIN_VALUE;
+            long most = NONE;
             for (int d = 0; d <= 90; d++) {
                 long reached = bySine * sines[d] + byCosine * sines[d + 90];
                 if (reached > most) {
@@ -878,7 +876,9 @@ public final class PoleSets {
             plunges = new int[MOST_LINES];
             lengths = new int[MOST_LINES];
             arrows = new Vector[MOST_LINES];
-            fillWithVectors(arrows);
+            for (int i = 0; i < MOST_LINES; i++) {
+                arrows[i] = new Vector();
+            }
             cracks = new Crack[MOST_CRACKS];
             for (int i = 0; i < MOST_CRACKS; i++) {
                 cracks[i] = new Crack(i);
@@ -1346,7 +1346,7 @@ public final class PoleSets {
 
         private void findHeapLies(int heaps) {
             for (int heap = 0; heap < heaps; heap++) {
-                heapLies[heap] = Integer.MAX_VALUE;
+                heapLies[heap] = ABOVE_ALL;
             }
             for (int i = 0; i < survey.count; i++) {
                 int heap = heapOf[i];
@@ -1562,7 +1562,9 @@ public final class PoleSets {
             circle = sines;
             places = new int[MOST_CRACKS];
             means = new Vector[MOST_SETS];
-            fillWithVectors(means);
+            for (int i = 0; i < MOST_SETS; i++) {
+                means[i] = new Vector();
+            }
             gather = new Gather();
             edition = NONE;
         }
@@ -1749,7 +1751,7 @@ public final class PoleSets {
                 return;
             }
             lineEdition = survey.edition;
-            bestLine[2] = Integer.MAX_VALUE;
+            bestLine[2] = ABOVE_ALL;
             for (int plunge = 0; plunge <= 90; plunge += 10) {
                 for (int trend = 0; trend < 360; trend += 10) {
                     circle.arrowInto(trend, plunge, trial);

@@ -24,6 +24,7 @@ public final class LanguageTest {
         String text = Files.readString(source, StandardCharsets.UTF_8);
         face(root.resolve("../shared/DOC.md"));
         words(text);
+        library(text);
         methods(text);
         Class<?>[] inside = PoleSets.class.getDeclaredClasses();
         check(inside.length + 1 <= 12, "more than twelve classes");
@@ -102,6 +103,24 @@ public final class LanguageTest {
             boolean safe = by.matches("[1-9]\\d*|THOUSAND|by");
             check(safe, "a division by " + by + " that is not looked at");
         }
+    }
+
+    /** Rule 4: of the library only the functions that it lists, and of Integer and Long no constants either. */
+    private static void library(String text) {
+        String code = text.replaceAll("(?s)/\\*.*?\\*/", "").replaceAll("//[^\n]*", "");
+        Set<String> own = new TreeSet<>();
+        for (Class<?> each : PoleSets.class.getDeclaredClasses()) {
+            own.add(each.getSimpleName());
+        }
+        Matcher used = Pattern.compile("\\b([A-Z]\\w*[a-z]\\w*)\\b(\\.\\w+\\(?)?").matcher(code);
+        while (used.find()) {
+            String name = used.group(1);
+            String member = used.group(2) == null ? "" : used.group(2);
+            boolean ours = name.equals("PoleSets") || own.contains(name);
+            boolean listed = name.matches("Math|Integer|Long") && member.matches("\\.[a-z]\\w*\\(");
+            check(ours && member.isEmpty() || listed, "not of the library's list: " + name + member);
+        }
+        check(!own.isEmpty(), "no classes inside were found");
     }
 
     /** Rules 8 and 11: methods stay short, and calls go at most eight deep and never round. */
